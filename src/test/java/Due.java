@@ -17,6 +17,14 @@ final class Due {
         is(call, got ? 1 : 0, want ? 1 : 0);
     }
 
+    void same(String what, String got, String want) {
+        asked++;
+        if (!got.equals(want)) {
+            wrong++;
+            System.out.println(what + " shows\n  " + got + "\nand not\n  " + want);
+        }
+    }
+
     void end() {
         System.out.println(asked + " answers, " + wrong + " not as due");
         if (wrong != 0) {
