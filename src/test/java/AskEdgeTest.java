@@ -17,6 +17,7 @@ public final class AskEdgeTest {
         test.duelAnyAgain();
         test.duelHoweverTheRivalChooses();
         test.duelOfLikeOnes();
+        test.duelOfSixSkaters();
         test.duelOfASetWithGaps();
         test.planksNoneToTwo();
         test.planksMoreThanTold();
@@ -155,6 +156,16 @@ public final class AskEdgeTest {
         due.is("the one there is", x.duel(2, 3, 1), 1);
     }
 
+    private void duelOfSixSkaters() {
+        IceTunes x = Due.told("pond 1 by 1;ice 6;tune a bars 1 0;tune b bars 1 0-1;tune c bars 1 1;" + skaters(6));
+        for (int n = 1; n <= 4; n++) {
+            due.is("all six stay UP", x.duel(5, n, 0), 6);
+            due.is("by the first", x.duel(5, n, 1), 0);
+        }
+        due.is("c, then the rival's b", x.duel(7, 2, 0) * 10 + x.duel(7, 2, 1), 62);
+        due.is("all six go IN", x.duel(2, 1, 0), 0);
+    }
+
     private void duelOfASetWithGaps() {
         IceTunes x = Due.told(ROW);
         due.is("only f holds", x.duel(33, 1, 0), 1);
@@ -260,6 +271,10 @@ public final class AskEdgeTest {
         due.is("one is IN, one BAR more", x.hush(0, 0) * 10 + x.hush(0, 1), 11);
         x.play(0);
         due.is("both are IN", x.hush(0, 0) * 10 + x.hush(0, 1), 2);
+        x = Due.told("pond 1 by 1;ice 0;tune a bars 1 0;" + skaters(6));
+        due.is("all six go IN", x.hush(0, 0) * 10 + x.hush(0, 1), 6);
+        x = Due.told("pond 1 by 1;ice 6;tune a bars 1 0;" + skaters(6));
+        due.is("none of six", x.hush(0, 0) * 10 + x.hush(0, 1), 0);
     }
 
     // "BREAK of a TUNE by d (-9 .. 9): if the ICE of all CELLS were so much more"
@@ -286,6 +301,10 @@ public final class AskEdgeTest {
         due.is("3 - 3 is 0", x.breaks(0, -3), -1);
         due.is("3 - 4 is 0", x.breaks(0, -4), -1);
         due.is("3 - 9 is 0", x.breaks(0, -9), -1);
+        x = Due.told("pond 1 by 1;ice 3;tune a bars 1 0;skater s weight 1 at 0 0;");
+        due.is("3 - 2 is 1", x.breaks(0, -2), -1);
+        due.is("3 - 3 is 0, not more", x.breaks(0, -3), 0);
+        due.is("3 - 9 is 0, not more", x.breaks(0, -9), 0);
         x = Due.told("pond 1 by 1;ice 95;tune a bars 1 0-50;skater s weight 49 at 0 0;");
         due.is("95 + 4 is 99", x.breaks(0, 4), -1);
         due.is("95 + 3 is 98", x.breaks(0, 3), 0);

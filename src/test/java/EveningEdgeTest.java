@@ -92,6 +92,14 @@ public final class EveningEdgeTest {
         due.is("the TIME", x.about(9), 77);
         due.is("the TAPE", x.about(10), 0);
         due.is("BOX 0 anew", x.image(0), 0);
+        Due.tell(x, "pond 1 by 1;ice 0;skater s weight 1 at 0 0;");
+        x.hold(1);
+        x.image(0);
+        x.back(0);
+        due.is("IN, by an image", x.about(13), 0);
+        Due.tell(x, "pond 1 by 1;skater s weight 1 at 0 0;");
+        due.is("UP in the next POND", x.about(13) * 10 + x.skater(0, 2), 11);
+        due.is("with his own", x.load(0, 0), 1);
     }
 
     // "3 to 5: NONE if he is UP"

@@ -1,3 +1,5 @@
+import java.util.List;
+
 /**
  * The limits of a POND and its FAULTS: each sentence at the last that is allowed and at the first that is not.
  * In a text with a FAULT the sign ^ (no TOKEN) stands ahead of its place, and is left out.
@@ -39,6 +41,8 @@ public final class PondEdgeTest {
         test.thirtyUnitsInOne();
         test.ninetyUnitsInAll();
         test.withinSixOthers();
+        test.nothingOfATextBefore();
+        test.manyPondsByOneObject();
         test.firstByItsPlace();
         test.atOnePlaceTheLeast();
         test.theEndIsThePlace();
@@ -224,6 +228,8 @@ public final class PondEdgeTest {
             fault(2, P + "skater ^" + word + " weight 1 at 0 0;");
             stands(P + "tune x" + word + " bars 1 1;skater x" + word + " weight 1 at 0 0;");
             stands(P + "tune " + word.substring(1) + "q bars 1 1;");
+            stands(P + "tune z" + word.substring(1) + " bars 1 1;");
+            stands(P + "tune " + word.substring(0, word.length() - 1) + "z bars 1 1;");
         }
     }
 
@@ -370,9 +376,11 @@ public final class PondEdgeTest {
         x = stands(S + "1;");
         x.hold(20);
         due.is("a silence line", x.ice(0, 0), 70);
-        Due.tell(x, P);
-        x.hold(20);
-        due.is("none of the POND before", x.ice(0, 0), 50);
+        for (int i = 0; i < 3; i++) {
+            Due.tell(x, P);
+            x.hold(20);
+            due.is("none of a POND before", x.ice(0, 0), 50);
+        }
     }
 
     // "6 SKATERS"
@@ -491,6 +499,47 @@ public final class PondEdgeTest {
         stands(S + "(((((((ice < beat and load or around * 2 = 3)))))));");
         fault(2, S + "1+(((((((1)))))))+(((((((^(1))))))));");
         stands(S + "not not not not not not not 1 and not not not not not not not 1;");
+        stands(P + "tune a bars 1 (((((((1)))))));");
+        fault(2, P + "tune a bars 1 (((((((^(1))))))));");
+        stands(P + "tune a bars 1 not not not not not not not 1;");
+        fault(2, P + "tune a bars 1 not not not not not not not ^not 1;");
+    }
+
+    /** What one text tells is not there for the next, whether it was a POND or had a FAULT. */
+    private void nothingOfATextBefore() {
+        String full = "pond 5 by 5;ice 3;cell 4 4 ice 9;plank at 2 2;silence 7;" + tunes(6, " bars 12 0 - 1;") + skaters(6, " weight 9 at 4 4 north west;");
+        IceTunes x = new IceTunes();
+        for (String next : new String[] {full, P, full + "A", P, "", full, "", "", full + "A", full, P, P}) {
+            int cells = Due.tell(x, next);
+            if (next.equals(P) || next.isEmpty()) {
+                due.is("CELLS", cells, next.isEmpty() ? 0 : 1);
+                for (int what : new int[] {2, 3, 4, 5, 6, 7, 8, 11, 12, 13}) {
+                    due.is("about(" + what + ") behind a full one", x.about(what), 0);
+                }
+                due.is("across and down", x.about(0) * 10 + x.about(1), next.isEmpty() ? 0 : 11);
+                x.hold(1);
+                due.is("usual ICE", x.ice(0, 0), next.isEmpty() ? -1 : 50);
+            } else if (cells > 0) {
+                due.is("a full one", x.play(5), 0);
+                due.is("none UP", x.about(13), 0);
+            }
+        }
+        due.is("a CELL of it", Due.tell(x, "pond 5 by 5;skater s weight 51 at 2 2;"), 25);
+        due.is("its ICE", x.ice(4, 4), 50);
+        due.is("one UP", x.about(13), 1);
+        due.is("no plank now, no steps", x.hold(1), 0);
+        due.is("where he stood", x.skater(0, 0) * 10 + x.skater(0, 1), 22);
+    }
+
+    private void manyPondsByOneObject() {
+        String thirty = "not not not not not not not 0 and " + many("1", "*", 29);
+        String text = P + "ice 0;tune a bars 1 " + thirty + ";tune b bars 2 " + thirty + ";tune c bars 3 " + thirty + ";";
+        IceTunes x = new IceTunes();
+        for (int i = 0; i < 10; i++) {
+            due.is("a POND again", Due.tell(x, text), 1);
+            x.play(2);
+            due.is("its TUNES do", x.ice(0, 0), 3);
+        }
     }
 
     // "FAULTS, the first by its place (bytes from 0 ..)"
@@ -559,6 +608,10 @@ public final class PondEdgeTest {
         stands(P + "tune abcdefgh bars 1 1;tune abcdefgg bars 1 1;tune bbcdefgh bars 1 1;tune abcdefg bars 1 1;tune a bars 1 1;tune ab bars 1 1;");
         stands(P + "tune a bars 1 1;skater a weight 1 at 0 0;");
         stands(P + "skater a weight 1 at 0 0;tune a bars 1 1;");
+        fault(3, P + "tune a bars 1 1;tune ^a\nbars 1 1;");
+        fault(3, P + "skater s\nweight 1 at 0 0;skater ^s weight 1 at 0 0;");
+        fault(3, P + "skater s weight 1 at 0 0;" + tunes(6, " bars 1 1;") + "skater ^s weight 1 at 0 0;");
+        fault(3, P + "tune s bars 1 1;" + skaters(6, " weight 1 at 0 0;") + "tune ^s bars 1 1;");
         IceTunes x = stands(P + "tune a bars 1 1;");
         due.is("told of another POND", Due.tell(x, P + "tune a bars 1 1;"), 1);
     }
@@ -610,6 +663,13 @@ public final class PondEdgeTest {
         fault(2, P + "skater s weight 1 at ^stay;");
         fault(2, P + "skater s weight 1 at 0 ^stay;");
         fault(2, P + "skater s weight 1 at 0 0 ^up;");
+        List<String> steps = List.of("stay", "north", "east", "south", "west");
+        for (String word : WORDS) {
+            if (!steps.contains(word)) {
+                fault(2, P + "skater s weight 1 at 0 0 ^" + word + ";");
+                fault(2, P + "skater s weight 1 at 0 0 stay ^" + word + " stay;");
+            }
+        }
         fault(2, P + "skater s weight 1 at 0 0 east ^0;");
     }
 

@@ -11,6 +11,7 @@ public final class SightEdgeTest {
         test.bars1To36();
         test.barsBehindTheirEnd();
         test.fromLeastToMost();
+        test.ofEachCell();
         test.upOrIn();
         test.rowsOfOneToThree();
         test.noTunesNoRows();
@@ -126,6 +127,21 @@ public final class SightEdgeTest {
         x = Due.told("pond 1 by 1;ice 98;tune a bars 1 1;tune b bars 1 0-99;");
         x.sight(1, 0, 0, 0, 0);
         due.is("0 to 0", x.asked(1, 0) * 10 + x.lies(0), 11);
+    }
+
+    // "the ICE of a CELL": of that one alone
+    private void ofEachCell() {
+        StringBuilder text = new StringBuilder("pond 5 by 5;tune a bars 1 0;");
+        for (int i = 0; i < 25; i++) {
+            text.append("cell ").append(i % 5).append(' ').append(i / 5).append(" ice ").append(i + 1).append(';');
+        }
+        IceTunes x = Due.told(text.toString());
+        for (int i = 0; i < 25; i++) {
+            due.is("a SIGHT", x.sight(1, i % 5, i / 5, i + 1, i + 1), i);
+            due.is("it is so", x.asked(1, 0), 1);
+        }
+        due.is("of another", x.sight(1, 4, 4, 24, 24), 25);
+        due.is("is not so", x.asked(1, 0), 0);
     }
 
     // "or a SKATER was UP, or was IN"

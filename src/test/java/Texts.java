@@ -132,7 +132,11 @@ final class Texts {
             "silence 1;", " or ", "<", "=", "%", "stay ", "x", "ice 5;", "cell 0 0 ice 4;", "plank at 0 0;", "\u00e9", "pond 1 by 1;", "0", "bars "};
         int at = dice.nextInt(text.length() + 1);
         String part = parts[dice.nextInt(parts.length)];
-        switch (dice.nextInt(4)) {
+        switch (dice.nextInt(6)) {
+            case 4:
+                return twice(text);
+            case 5:
+                return otherNumber(text);
             case 0:
                 return text.substring(0, at);
             case 1:
@@ -142,5 +146,22 @@ final class Texts {
             default:
                 return text.substring(0, at) + text.substring(Math.min(text.length(), at + 1 + dice.nextInt(12)));
         }
+    }
+
+    /** A line told a second time, at the end. */
+    private String twice(String text) {
+        String[] lines = text.split(";");
+        return text + lines[dice.nextInt(lines.length)] + ";";
+    }
+
+    /** A digit made another, or another put behind it. */
+    private String otherNumber(String text) {
+        for (int tries = 0; tries < 50 && !text.isEmpty(); tries++) {
+            int at = dice.nextInt(text.length());
+            if (Character.isDigit(text.charAt(at))) {
+                return text.substring(0, at) + dice.nextInt(10) + text.substring(dice.nextInt(2) == 0 ? at : at + 1);
+            }
+        }
+        return text;
     }
 }
