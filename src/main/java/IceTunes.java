@@ -586,7 +586,35 @@ public final class IceTunes {
             tokens.begin(text, length);
             boolean fine = true;
             for (int i = 0; i < TEXT_BYTES && fine && tokens.kind != Tokens.END; i++) {
-                fine = readLine() && take(';');
+                int sort = tokens.kind;
+                if (!mayStand(sort)) {
+                    return fail(MISPLACED);
+                }
+                tokens.next();
+                switch (sort) {
+                    case Tokens.POND:
+                        fine = readSize();
+                        break;
+                    case Tokens.ICE:
+                        fine = readAllIce();
+                        break;
+                    case Tokens.CELL:
+                        fine = readCell();
+                        break;
+                    case Tokens.PLANK:
+                        fine = readPlank();
+                        break;
+                    case Tokens.TUNE:
+                        fine = readTune();
+                        break;
+                    case Tokens.SILENCE:
+                        fine = readSilence();
+                        break;
+                    default:
+                        fine = readSkater();
+                        break;
+                }
+                fine = fine && take(';');
             }
             return fine;
         }
@@ -615,30 +643,6 @@ public final class IceTunes {
             number = tokens.value;
             tokens.next();
             return true;
-        }
-
-        private boolean readLine() {
-            int sort = tokens.kind;
-            if (!mayStand(sort)) {
-                return fail(MISPLACED);
-            }
-            tokens.next();
-            switch (sort) {
-                case Tokens.POND:
-                    return readSize();
-                case Tokens.ICE:
-                    return readAllIce();
-                case Tokens.CELL:
-                    return readCell();
-                case Tokens.PLANK:
-                    return readPlank();
-                case Tokens.TUNE:
-                    return readTune();
-                case Tokens.SILENCE:
-                    return readSilence();
-                default:
-                    return readSkater();
-            }
         }
 
         private boolean mayStand(int sort) {

@@ -4,8 +4,12 @@ import java.lang.reflect.Method;
 import java.lang.reflect.Modifier;
 import java.nio.file.Files;
 import java.nio.file.Path;
+import java.util.ArrayList;
+import java.util.HashMap;
 import java.util.List;
+import java.util.Map;
 import java.util.Set;
+import java.util.TreeMap;
 import java.util.TreeSet;
 import java.util.regex.Matcher;
 import java.util.regex.Pattern;
@@ -24,6 +28,8 @@ public final class LanguageTest {
         List<String> lines = Files.readAllLines(Path.of("src/main/java/IceTunes.java"));
         test.forbiddenWords(lines);
         test.shortMethods(lines);
+        test.library(lines);
+        test.callsAreNotDeep(lines);
         test.face();
         test.classes();
         test.due.end();
@@ -33,7 +39,7 @@ public final class LanguageTest {
         Pattern bad = Pattern.compile("\\b(throw|throws|try|catch|synchronized|assert|import|package|native|volatile|var|hashCode|toString|Object|Exception)\\b"
             + "|->|::|Exact\\b|\" *\\+|\\+ *\"|static *\\{|[^\\x00-\\x7f]");
         for (int i = 0; i < lines.size(); i++) {
-            String code = lines.get(i).replaceAll("//.*|^\\s*/?\\*.*", "");
+            String code = codeOf(lines.get(i));
             Matcher found = bad.matcher(code);
             due.is("line " + (i + 1) + " has a word that LANGUAGE.md forbids: " + code, found.find(), false);
         }
@@ -51,6 +57,112 @@ public final class LanguageTest {
                 due.is("the method of line " + (i + 1) + " is short", end - i < 60, true);
             }
         }
+    }
+
+    private static String codeOf(String line) {
+        return line.replaceAll("//.*|^\\s*/?\\*.*", "");
+    }
+
+    // Rule 4, as far as the class uses it.
+    private void library(List<String> lines) {
+        Set<String> allowed = Set.of("Math.max", "Math.min", "Integer.bitCount", "System.arraycopy");
+        Pattern use = Pattern.compile("\\b(Math|Integer|Long|System|Arrays|String|StringBuilder|List|ArrayList|Character|Byte|Boolean)\\.\\w+|\\.(clone|equals|getClass)\\b");
+        for (String line : lines) {
+            Matcher found = use.matcher(codeOf(line));
+            while (found.find()) {
+                due.is(found.group() + " is of the library that is allowed", allowed.contains(found.group()), true);
+            }
+        }
+    }
+
+    // Rule 11: a call by a bare name goes to its own class or the outer one, any other to each class that has the name.
+    private void callsAreNotDeep(List<String> lines) {
+        Map<String, List<String>> bodies = bodies(lines);
+        Map<String, Set<String>> calls = new TreeMap<>();
+        for (String method : bodies.keySet()) {
+            calls.put(method, calledBy(method, bodies));
+        }
+        due.is("methods were found", bodies.size() > 100, true);
+        Map<String, Set<String>> reached = new TreeMap<>();
+        for (String method : calls.keySet()) {
+            Set<String> all = new TreeSet<>();
+            reach(method, calls, all);
+            reached.put(method, all);
+        }
+        Map<String, Integer> depths = new HashMap<>();
+        for (String method : calls.keySet()) {
+            int deep = depth(method, calls, reached, depths);
+            due.is(method + " goes " + deep + " deep, eight at most", deep <= 8, true);
+        }
+    }
+
+    private static Map<String, List<String>> bodies(List<String> lines) {
+        Pattern kind = Pattern.compile("^    private static final class (\\w+)");
+        Pattern head = Pattern.compile("^( {4}| {8})(public|private)\\b.*?(\\w+)\\(.*\\) \\{$");
+        Map<String, List<String>> bodies = new TreeMap<>();
+        String inside = "IceTunes";
+        List<String> body = new ArrayList<>();
+        for (String line : lines) {
+            Matcher newKind = kind.matcher(line);
+            Matcher newHead = head.matcher(line);
+            if (newKind.find()) {
+                inside = newKind.group(1);
+            } else if (newHead.find()) {
+                body = bodies.computeIfAbsent(inside + "." + newHead.group(3), k -> new ArrayList<>());
+            } else {
+                body.add(codeOf(line));
+            }
+        }
+        return bodies;
+    }
+
+    private static Set<String> calledBy(String method, Map<String, List<String>> bodies) {
+        String own = method.substring(0, method.indexOf('.') + 1);
+        Set<String> called = new TreeSet<>();
+        for (String line : bodies.get(method)) {
+            Matcher call = Pattern.compile("(\\.)?\\b(\\w+)\\(").matcher(line);
+            while (call.find()) {
+                String name = call.group(2);
+                if (call.group(1) == null) {
+                    called.add(bodies.containsKey(own + name) ? own + name : "IceTunes." + name);
+                } else {
+                    bodies.keySet().stream().filter(m -> m.endsWith("." + name) && !m.startsWith(own) && !m.startsWith("IceTunes.")).forEach(called::add);
+                }
+            }
+        }
+        called.retainAll(bodies.keySet());
+        return called;
+    }
+
+    private static void reach(String from, Map<String, Set<String>> calls, Set<String> all) {
+        for (String next : calls.get(from)) {
+            if (all.add(next)) {
+                reach(next, calls, all);
+            }
+        }
+    }
+
+    /** Methods that call one another (recursion) count as one. */
+    private static int depth(String from, Map<String, Set<String>> calls, Map<String, Set<String>> reached, Map<String, Integer> depths) {
+        if (depths.containsKey(from)) {
+            return depths.get(from);
+        }
+        Set<String> group = new TreeSet<>(Set.of(from));
+        for (String other : reached.get(from)) {
+            if (reached.get(other).contains(from)) {
+                group.add(other);
+            }
+        }
+        int deepest = 0;
+        for (String member : group) {
+            for (String next : calls.get(member)) {
+                if (!group.contains(next)) {
+                    deepest = Math.max(deepest, depth(next, calls, reached, depths));
+                }
+            }
+        }
+        depths.put(from, deepest + 1);
+        return deepest + 1;
     }
 
     private void face() {
