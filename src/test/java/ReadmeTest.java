@@ -31,7 +31,7 @@ public final class ReadmeTest {
         Path room = Files.createTempDirectory("readme");
         try {
             copy(Path.of("src"), room.resolve("main/src"));
-            copy(Path.of("../shared"), room.resolve("shared"));
+            copy(Path.of("../shared/tests"), room.resolve("shared/tests"));
             test.commands(room.resolve("main"));
         } finally {
             remove(room);
